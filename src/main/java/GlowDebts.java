@@ -1159,6 +1159,7 @@ public final class GlowDebts {
         private final int[] weights = new int[LIGHTS];
         private final int[] sums = new int[1 << LIGHTS];
 
+        /** How many sets there are, none among them. */
         private static int setsOf(Bank bank) {
             return 1 << Math.min(bank.size(), LIGHTS);
         }
@@ -1247,38 +1248,42 @@ public final class GlowDebts {
             return best;
         }
 
+        /** Backwards from the last turn; each looks alone at sets that the turns ahead of it can lead to. */
         int afterTurns(Bank bank, int place, int turns) {
             sumGlow(bank, place);
-            int sets = setsOf(bank);
+            int lit = bank.litSet();
+            int all = setsOf(bank);
             for (int turn = Math.min(turns, TURNS) - 1; turn >= 0; turn--) {
                 if (turn % 2 == 0) {
-                    letOneAnswer(sets);
+                    letOneAnswer(all, lit, turn);
                 } else {
-                    letOneLight(sets);
+                    letOneLight(all, lit, turn);
                 }
             }
-            int lit = bank.litSet();
             return lit >= 0 && lit < sums.length ? sums[lit] : 0;
         }
 
         /** From the largest set down, as each looks at smaller ones as they were. */
-        private void letOneAnswer(int sets) {
-            for (int set = Math.min(sets, sums.length) - 1; set >= 0; set--) {
-                for (int own = 1; own <= set; own += own) {
-                    if ((set & own) != 0) {
-                        sums[set] = Math.min(sums[set], sums[set - own]);
+        private void letOneAnswer(int all, int lit, int turn) {
+            for (int set = all - 1; set >= 0; set--) {
+                if (Integer.bitCount(set ^ lit) <= turn) {
+                    for (int own = 1; own < all; own += own) {
+                        if ((set & own) != 0) {
+                            sums[set] = Math.min(sums[set], sums[set - own]);
+                        }
                     }
                 }
             }
         }
 
         /** From the smallest set up, as each looks at larger ones as they were. */
-        private void letOneLight(int sets) {
-            int all = Math.min(sets, sums.length);
+        private void letOneLight(int all, int lit, int turn) {
             for (int set = 0; set < all; set++) {
-                for (int own = 1; own < all; own += own) {
-                    if ((set & own) == 0 && set + own < all) {
-                        sums[set] = Math.max(sums[set], sums[set + own]);
+                if (Integer.bitCount(set ^ lit) <= turn) {
+                    for (int own = 1; own < all; own += own) {
+                        if ((set & own) == 0) {
+                            sums[set] = Math.max(sums[set], sums[set + own]);
+                        }
                     }
                 }
             }
@@ -1408,8 +1413,11 @@ public final class GlowDebts {
 
         static int tellingNight(int kinds, int first) {
             int best = 0;
+            int least = largestPart(kinds, first, 0);
             for (int night = 1; night <= LAST_NIGHT; night++) {
-                if (largestPart(kinds, first, night) < largestPart(kinds, first, best)) {
+                int part = largestPart(kinds, first, night);
+                if (part < least) {
+                    least = part;
                     best = night;
                 }
             }
@@ -1420,16 +1428,21 @@ public final class GlowDebts {
         static int largestPart(int kinds, int first, int night) {
             int largest = 0;
             for (int kind = 0; kind < KINDS; kind++) {
-                int alike = 0;
-                for (int other = 0; other < KINDS; other++) {
-                    boolean both = (kinds >> kind & 1) == 1 && (kinds >> other & 1) == 1;
-                    if (both && Kinds.glow(kind, first, night) == Kinds.glow(other, first, night)) {
-                        alike++;
-                    }
+                if ((kinds >> kind & 1) == 1) {
+                    largest = Math.max(largest, howManyGlow(kinds, first, night, Kinds.glow(kind, first, night)));
                 }
-                largest = Math.max(largest, alike);
             }
             return largest;
+        }
+
+        private static int howManyGlow(int kinds, int first, int night, int glow) {
+            int many = 0;
+            for (int kind = 0; kind < KINDS; kind++) {
+                if ((kinds >> kind & 1) == 1 && Kinds.glow(kind, first, night) == glow) {
+                    many++;
+                }
+            }
+            return many;
         }
 
         static int fittingOwers(Bank bank, int k, Strip told) {

@@ -95,6 +95,8 @@ final class BrightTest {
         due.asked("stow(0, 0, 1)", x, x.stow(0, 0, 1), 4, 0);
         due.asked("stow(1, 0, 5)", x, x.stow(1, 0, 5), 9, 6 + 4 + 4 + 2 + 2);
         due.asked("stow(0, 9, 9), its own PLACE would do as well", x, x.stow(0, 9, 9), 0, 0);
+        GlowDebts low = Due.bank("l0152");
+        due.asked("stow(0, 0, 0), PLACE 1 is far enough", low, low.stow(0, 0, 0), 1, 0);
         due.is("the PLACE behind stow", x.count(2), 0);
         GlowDebts own = Due.bank("l0125 l1097");
         due.asked("stow(0, 5, 9), the first of like ones", own, own.stow(0, 5, 9), 0, 7 + 5 + 3 + 1);
@@ -116,6 +118,8 @@ final class BrightTest {
         due.asked("dark(1)", x, x.dark(1), 9, 0);
         due.asked("dark(2)", x, x.dark(2), 8, 1);
         due.asked("dark(9)", x, x.dark(9), 1, 41);
+        GlowDebts high = Due.bank("l0109 l0189");
+        due.asked("dark(2) between", high, high.dark(2), 3, 3 + 1 + 1);
         due.asked("dark(10)", x, x.dark(10), 0, 43);
         GlowDebts like = Due.bank("l0143 l0153");
         due.asked("dark(3), the first of like ones", like, like.dark(3), 0, 0);

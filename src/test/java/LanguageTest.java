@@ -52,6 +52,9 @@ final class LanguageTest {
         due.is("calls of the face", want.size(), 47);
         same("the face", got, want);
         Set<String> names = want.stream().map(w -> w.split(" ")[1]).collect(Collectors.toCollection(TreeSet::new));
+        for (Class<?> inside : GlowDebts.class.getDeclaredClasses()) {
+            Arrays.stream(inside.getDeclaredMethods()).forEach(method -> hidden.add(method.getName()));
+        }
         hidden.retainAll(names);
         same("hidden calls that bear a public name", hidden, Set.of());
         Set<String> constants = new TreeSet<>();

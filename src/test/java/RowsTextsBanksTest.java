@@ -111,6 +111,8 @@ final class RowsTextsBanksTest {
         due.is("copy down in itself", x.copy(0, 1, 0, 0, 4), 1);
         due.holds("copied down in itself", x, 0, 1, 2, 3, 4, 4);
         due.is("copy of none at the ends", x.copy(0, 5, 1, 3, 0), 1);
+        x.row(2, 0);
+        due.is("copy of none to an empty row", x.copy(2, 0, 2, 0, 0), 1);
         due.bad("copy from no row", x, () -> x.copy(6, 0, 1, 0, -1));
         due.bad("copy to no row", x, () -> x.copy(0, 0, -1, 0, -1));
         due.found("copy of fewer than none, of a missing row", x, () -> x.copy(5, 0, 0, 0, -1), SIZE);

@@ -74,6 +74,7 @@ final class WhoseTest {
         test("l0106", 0, 1, 4, 10, 5, 5);
         test("l0106", 1, 1, 0, 3);
         test("l0105", 5, 1, 4, 9);
+        test("l0106", 0, 1, 4, 6);
         GlowDebts x = Due.bank("l0106");
         Due.lay(x, 0, 0, 6);
         x.test(0, 0);
