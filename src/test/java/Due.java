@@ -1,19 +1,35 @@
 import java.util.function.LongSupplier;
 
 /** Compares what a program answers with what is due, and ends a test. */
-final class Due {
+class Due {
+    private String heading = "";
     private int right = 0;
     private int wrong = 0;
 
     void is(String what, long got, long due) {
         if (got == due) {
             right++;
-            return;
+        } else {
+            fail(what + " answered " + got + ", due is " + due);
         }
+    }
+
+    void fail(String what) {
         wrong++;
         if (wrong <= 20) {
-            System.out.println(what + " answered " + got + ", due is " + due);
+            System.out.println(heading + what);
         }
+    }
+
+    /** A test of its own within another one: it is named with whatever is wrong in it, and looks at something. */
+    void within(String name, Runnable checks) {
+        int before = right + wrong;
+        heading = name + ": ";
+        checks.run();
+        if (right + wrong == before) {
+            fail("looks at nothing");
+        }
+        heading = "";
     }
 
     /** A call that tells by asked(). */

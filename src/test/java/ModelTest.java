@@ -3,7 +3,8 @@ import java.util.Arrays;
 
 /** All promises: runs of calls, drawn by a counter, on the program and on Model, with the same answers. */
 final class ModelTest {
-    private static final int RUNS = 1500, CALLS = 180;
+    /** A run ends ahead of 512 calls, as what later ones answer is free; one step of it takes some 70 at most. */
+    private static final int RUNS = 5000, CALLS = 430;
 
     /** Each call with the least and the most that its numbers can be by the document; a LIGHT is 0 .. 7. */
     private static final String[] TABLE = {
@@ -25,6 +26,7 @@ final class ModelTest {
 
     private final GlowDebts program = new GlowDebts();
     private final Model model = new Model();
+    private int calls = 0;
 
     public static void main(String[] args) throws ReflectiveOperationException {
         for (int which = 0; which < TABLE.length; which++) {
@@ -66,7 +68,7 @@ final class ModelTest {
     private void run(String where) throws ReflectiveOperationException {
         write(words());
         call(where, Arrays.asList(NAMES).indexOf("bank"), 0);
-        for (int i = 0; i < CALLS; i++) {
+        for (int i = 0; calls < CALLS; i++) {
             int luck = draw(100);
             if (luck == 0) {
                 write(words());
@@ -92,6 +94,7 @@ final class ModelTest {
         }
         int got = answer(program, OF_PROGRAM[which], numbers);
         int want = answer(model, OF_MODEL[which], numbers);
+        calls += 6;
         String what = where + ": " + NAMES[which] + Arrays.toString(numbers);
         answered[which] += want >= 0 ? 1 : 0;
         due.is(what, got, want);
@@ -105,6 +108,7 @@ final class ModelTest {
     private void write(String words) {
         program.text(0, words.length());
         model.text(0, words.length());
+        calls += words.length() + 2;
         for (int i = 0; i < words.length(); i++) {
             due.is("put", program.put(0, i, words.charAt(i)), model.put(0, i, words.charAt(i)));
         }
@@ -134,6 +138,7 @@ final class ModelTest {
     private void lay(int r, int... numbers) {
         program.row(r, numbers.length);
         model.row(r, numbers.length);
+        calls += numbers.length + 1;
         for (int i = 0; i < numbers.length; i++) {
             due.is("lay", program.lay(r, i, numbers[i]), model.lay(r, i, numbers[i]));
         }
